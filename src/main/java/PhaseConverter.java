@@ -171,8 +171,11 @@ public final class PhaseConverter {
         for (int i = 0; i <= program.length && possible; i++) {
             int code = i < program.length ? program.codeAt(i) : ',';
             if (code == ',') {
-                possible = perform(letter, number);
-                carriedOut += possible ? 1 : 0;
+                possible = isPossible(letter, number);
+                if (possible) {
+                    carryOut(letter, number);
+                    carriedOut++;
+                }
                 number = 0;
             } else if (isDigit(code)) {
                 number = 10 * number + code - '0';
@@ -352,42 +355,43 @@ public final class PhaseConverter {
         }
     }
 
-    /** Carries out an item of a program; answers false, and does nothing, if it is not possible. */
-    private boolean perform(int letter, int number) {
+    private boolean isPossible(int letter, int number) {
         switch (letter) {
-            case 's': return performStart();
-            case 'x': plant.halt(OFF); return true;
-            case 'r': return performRun(number);
-            case 'i': return performSet(INPUT_VOLTAGE, number);
-            case 't': return performSet(TARGET_VOLTAGE, number);
-            case 'l': return performSet(LOAD_CURRENT, number);
-            case 'c': return performSet(CURRENT_LIMIT, number);
-            default: return false;
+            case 's': return !plant.runs();
+            case 'x': return true;
+            case 'r': return isRunLength(number) && hasRoomFor(number);
+            default: return fits(settingOf(letter), number);
         }
     }
 
-    private boolean performStart() {
-        if (plant.runs()) {
-            return false;
+    /** Carries out an item of a program that is possible. */
+    private void carryOut(int letter, int number) {
+        switch (letter) {
+            case 's':
+                plant.softStart();
+                break;
+            case 'x':
+                plant.halt(OFF);
+                break;
+            case 'r':
+                passCycles(number);
+                break;
+            default:
+                int setting = settingOf(letter);
+                if (isSetting(setting)) {
+                    plant.settings[setting] = number;
+                }
         }
-        plant.softStart();
-        return true;
     }
 
-    private boolean performRun(int cycles) {
-        if (!isRunLength(cycles) || !hasRoomFor(cycles)) {
-            return false;
+    private static int settingOf(int letter) {
+        switch (letter) {
+            case 'i': return INPUT_VOLTAGE;
+            case 't': return TARGET_VOLTAGE;
+            case 'l': return LOAD_CURRENT;
+            case 'c': return CURRENT_LIMIT;
+            default: return NONE;
         }
-        passCycles(cycles);
-        return true;
-    }
-
-    private boolean performSet(int setting, int value) {
-        if (!fits(setting, value)) {
-            return false;
-        }
-        plant.settings[setting] = value;
-        return true;
     }
 
     private int number(int what) {

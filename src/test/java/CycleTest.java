@@ -8,6 +8,7 @@ public final class CycleTest {
         restIsCarried();
         ramp();
         targetIsMoved();
+        dutyIsTheSumOfItsParts();
         dutyIsClamped();
         integralIsClamped();
         starved();
@@ -24,6 +25,7 @@ public final class CycleTest {
         shedding();
         sheddingEndsAPulse();
         adding();
+        addingAllAgain();
         countsBeginAnew();
         fallingCurrent();
         inputBelowOutput();
@@ -129,6 +131,38 @@ public final class CycleTest {
         y.set(1, 600);
         y.run(1);
         Check.counts("the target lowered in the ramp", y, 2, y.count(1), 600);
+    }
+
+    private static void dutyIsTheSumOfItsParts() {
+        PhaseConverter x = shorted(1, 100);
+        x.set(1, 10794);
+        x.set(6, 0);
+        x.set(7, 0);
+        x.start();
+        x.run(6);
+        Check.same("1000 * 10794 / 12000", x.count(7), 899);
+        x.set(1, 1200);
+        x.set(7, 20);
+        x.run(50);
+        Check.same("integral", x.count(6), 100000);
+        Check.same("100 + 200", x.count(7), 300);
+        x.set(7, 21);
+        x.set(6, 9);
+        x.run(1);
+        Check.same("100 + 108 + 210", x.count(7), 418);
+        // Above the target each part is truncated toward 0.
+        PhaseConverter y = highOutput(12000);
+        y.set(1, 12000);
+        y.start();
+        y.run(1);
+        y.set(0, 24000);
+        y.set(8, 2000);
+        y.set(6, 1);
+        y.set(7, 1);
+        y.run(5);
+        // 100, then 2100 to 10100 less 12000: 100 - 9900 - 7900 - 5900 - 3900 - 1900.
+        Check.same("integral", y.count(6), -29400);
+        Check.same("420 - 1900 / 100 - 29400 / 10000", y.count(7), 420 - 19 - 2);
     }
 
     private static void dutyIsClamped() {
@@ -246,6 +280,17 @@ public final class CycleTest {
         Check.phase("one below the limit", y, 0, 24000, 0, 0, 2, 1, 0, 1);
         Check.same("greatest current", y.count(11), 24000);
         Check.same("mean current", y.count(5), (12000 + 19 * 24000) / 20);
+        // 166 is 3 slots; the limit is met when the last of them is left.
+        PhaseConverter z = shorted(1, 100);
+        z.set(5, 240);
+        z.set(6, 0);
+        z.set(7, 0);
+        z.start();
+        z.run(1);
+        Check.phase("with one slot left", z, 0, 240, 0, 320, 2, 1, 0, 1);
+        // 275 is 5 slots, all of them lost to the limit at the first.
+        z.run(1);
+        Check.phase("an event ends the pulse", z, 0, 240, 0, 820, 2, 2, 0, 2);
     }
 
     private static void currentLimitOfAnEarlierPulse() {
@@ -510,6 +555,12 @@ public final class CycleTest {
         Check.same("no slot more", x.phase(1, 3), slots);
         Check.same("the current of a shed phase counts on", x.phase(1, 0), current);
         Check.same("but not for the unbalance", x.unbalance(), 0);
+        // Nor for the balance: the only active phase is at the mean of the active ones.
+        x.set(14, 1000);
+        int before = x.phase(0, 3);
+        x.run(1);
+        Check.same("duty", x.count(7), 900);
+        Check.same("slots on", x.phase(0, 3), before + 18);
     }
 
     private static void adding() {
@@ -536,6 +587,26 @@ public final class CycleTest {
         x.run(10);
         Check.same("no more than there are", x.count(3), 2);
         Check.same("changes", x.count(12), 2);
+    }
+
+    private static void addingAllAgain() {
+        PhaseConverter x = shorted(4, 1);
+        x.set(10, 30000);
+        x.set(11, 30000);
+        x.start();
+        int[] due = {4, 4, 4, 4, 3, 3, 3, 3, 3, 2};
+        for (int active : due) {
+            x.run(1);
+            Check.same("active while shedding", x.count(3), active);
+        }
+        x.set(11, 0);
+        x.set(10, 1);
+        int[] dueAgain = {2, 2, 3, 3, 3, 4, 4, 4, 4};
+        for (int active : dueAgain) {
+            x.run(1);
+            Check.same("active while adding", x.count(3), active);
+        }
+        Check.same("changes", x.count(12), 4);
     }
 
     private static void countsBeginAnew() {

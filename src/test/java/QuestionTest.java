@@ -250,6 +250,10 @@ public final class QuestionTest {
         // 16000 is met at n = 200.
         Check.asks("n = 200 is allowed", x, 200, () -> x.settles(4000));
         Check.asks("n = 201 is not", x, NONE, () -> x.settles(3999));
+        // 40000 - 220 * n: 12280, 12060, 11840, 11620 at n = 126 to 129.
+        x.set(2, 11);
+        Check.asks("two cycles are too few", x, NONE, () -> x.settles(160));
+        Check.asks("three are enough", x, 126, () -> x.settles(280));
         x.set(1, 500);
         x.set(2, 60000);
         Check.asks("a cycle is not too few", x, 1, () -> x.settles(500));
@@ -305,6 +309,16 @@ public final class QuestionTest {
             Check.asks("unbalance of " + phases, x, greatest - least, x::unbalance);
         }
         Check.same("one phase", running(1, 9000, 37).unbalance(), 0);
+        PhaseConverter x = new PhaseConverter();
+        x.begin(3);
+        x.set(2, 60000);
+        x.set(3, 100);
+        x.set(8, 2000);
+        x.set(14, 0);
+        x.start();
+        // 900: 18 slots of 120 from slot 0, 14 of them from slot 6, 7 of them from slot 13.
+        x.run(1);
+        Check.asks("the last is the least", x, (18 - 7) * 120, x::unbalance);
     }
 
     private static void promise19MeanVoltage() {
@@ -362,6 +376,16 @@ public final class QuestionTest {
             String buffer = phases == 1 ? "" : "r5,~!";
             Check.type(x, buffer);
             Check.asks("digest of " + phases, x, digestByQuestions(x, buffer), x::digest);
+        }
+        // 12000 - 40 * n at the end of cycle n: 50 above the target at n = 10, and 51 above it.
+        for (int target : new int[] {11550, 11549}) {
+            PhaseConverter x = charged();
+            x.set(2, 100);
+            x.run(14);
+            x.set(2, 2);
+            x.set(1, target);
+            Check.same("settles(50)", x.settles(50), target == 11550 ? 10 : NONE);
+            Check.asks("digest with the band of 50", x, digestByQuestions(x, ""), x::digest);
         }
         PhaseConverter off = new PhaseConverter();
         Check.same("digest of a new object", off.digest(), SettingsTest.freshDigest(2, ""));
