@@ -1,699 +1,412 @@
-/**
- * The terms "Cycles" and "Slots" (promise 7, seen through promises 12 to 14), by cases that
- * were worked out by hand from the document.
- */
+/** The terms of reckoning and "Cycles.", by cases worked out by hand. */
 public final class CycleTest {
     public static void main(String[] args) {
-        firstCycles();
-        restIsCarried();
-        ramp();
-        targetIsMoved();
-        dutyIsTheSumOfItsParts();
-        dutyIsClamped();
-        integralIsClamped();
-        starved();
-        pulsesBeginAtTheirSlots();
-        currentLimit();
-        currentLimitOfAnEarlierPulse();
-        balance();
-        balanceIsClampedAtNothing();
-        overvoltage();
-        voltageIsClamped();
-        skippedPulses();
-        skippedByMeanCurrent();
-        pulsesOfNoLength();
-        shedding();
-        sheddingEndsAPulse();
-        adding();
-        addingAllAgain();
-        countsBeginAnew();
-        fallingCurrent();
-        inputBelowOutput();
-        recordsOfACycle();
-        Check.end("CycleTest");
+        Check.run("CycleTest", sentences());
     }
 
-    private static void firstCycles() {
-        PhaseConverter x = new PhaseConverter();
-        x.begin(1);
+    static Sentences sentences() {
+        return new Sentences()
+            .in("Terms")
+            .holds("Everything is computed in integers; divisions are truncated toward 0.", CycleTest::truncation)
+            .holds("To clamp a number to a range means to replace it by the nearest number of the range.",
+                CycleTest::clamping)
+            .holds("If the converter runs and the input voltage is less than the least input, it is stopped, "
+                + "with the mode 4.", CycleTest::starved)
+            .holds("If the mode is 1, the present target increases by the ramp step;", CycleTest::ramp)
+            .holds("if it is at least the target voltage then, it becomes that, and the mode becomes 2.",
+                CycleTest::rampEnds)
+            .holds("If the mode was 2 before, the present target becomes the target voltage.",
+                CycleTest::targetIsFollowed)
+            .holds("If the converter runs: let e be the present target minus the output voltage.",
+                CycleTest::errorIsTargetLessVoltage)
+            .holds("The integral increases by e and is clamped to -100000 to 100000.", CycleTest::integralIsClamped)
+            .holds("The duty becomes 1000 * (present target) / (input voltage) + e * (proportional gain) / 100 + "
+                + "integral * (integral gain) / 10000,", CycleTest::dutyIsTheSumOfItsParts)
+            .holds("clamped to 0 to 900.", CycleTest::dutyIsClamped)
+            .holds("The slots 0 to 19 of the cycle take place, one after another.", CycleTest::twentySlots)
+            .holds("The mean current of the cycle becomes (the sum of the currents of all phases at the ends of all "
+                + "slots) / 20.", CycleTest::meanCurrent)
+            .holds("The ripple becomes the greatest output voltage at the end of a slot minus the least one.",
+                CycleTest::ripple)
+            .holds("The cycle is recorded;", CycleTest::recorded)
+            .holds("the latest 16 records are kept.", CycleTest::sixteenRecords);
+    }
+
+    private static void truncation() {
+        // A load below the capacity takes nothing away: -499 / 500 is 0.
+        PhaseConverter x = Converters.held(1, 40000);
+        Converters.set(x, 4, 500, 2, 499);
+        Check.same("-499 / 500", x.run(1), 40000);
+        x.set(2, 999);
+        Check.same("-999 / 500", x.run(1), 40000 - 20);
+        truncationOfTheDuty();
+        // (0 - 100 / 3) * 99 / 1000 = -33 * 99 / 1000 = -3: 53, and not 54.
+        PhaseConverter y = threeOf100(99);
+        y.run(1);
+        Check.same("rest of phase 1", y.phase(1, 2), 20 * 53 - 1000);
+        // (11999 - 12000) / 100 is 0: phase 1 keeps its 120 for 8 slots, and then 12000 / 100 are taken away.
+        PhaseConverter z = Converters.steady(2);
+        z.start();
+        z.run(1);
+        Check.phase("phase 1 is on", z, 1, 120, 8);
+        z.set(0, 11999);
+        z.run(1);
+        Check.same("mean current", z.count(5), 8 * 120 / 20);
+    }
+
+    private static void truncationOfTheDuty() {
+        PhaseConverter x = Converters.held(1, 12000);
+        Converters.set(x, 1, 10101, 6, 1, 7, 1);
         x.start();
-        // Target 100: 1000 * 100 / 12000 = 8, 100 * 50 / 100 = 50, 100 * 20 / 10000 = 0.
-        // 20 * 58 = 1160: one slot on, rest 160. 12000 / 20 = 600, and the load keeps the output at 0.
-        Check.same("run(1)", x.run(1), 0);
-        Check.counts("cycle 1", x, 1, 0, 100, 1, 1, 600, 100, 58, 0, 0, 0, 600, 0, 1, 1);
-        Check.phase("cycle 1", x, 0, 600, 0, 160, 1, 0, 0, 1);
-        Check.record("cycle 1", x, 0, 0, 600, 0, 1, 1, 0);
-        // Target 200: 16 + 100 + 300 * 20 / 10000 = 116; 160 + 2320 = 2480: two slots, rest 480.
-        // 1200 and 200 / 50 = 4; 1200 + 11996 / 20 = 1799 and 4 + 799 / 50 = 19; then the output
-        // rises by 15 a slot while the current falls by a twentieth of it.
+        // 1000 * 10101 / 24000 = 420, -1899 * 1 / 100 = -18, -1899 * 1 / 10000 = 0.
         x.run(1);
-        Check.same("duty of cycle 2", x.count(7), 116);
-        Check.same("integral of cycle 2", x.count(6), 300);
-        Check.same("rest of cycle 2", x.phase(0, 2), 480);
-        Check.same("slots on after cycle 2", x.phase(0, 3), 3);
-        int voltage = 19;
-        int current = 1799;
-        int sum = 1200 + 1799;
-        for (int slot = 2; slot < 20; slot++) {
-            current -= voltage / 20;
-            voltage += (current - 1000) / 50;
-            sum += current;
-        }
-        Check.same("voltage after cycle 2", x.count(1), voltage);
-        Check.same("current after cycle 2", x.phase(0, 0), current);
-        Check.same("mean current of cycle 2", x.count(5), sum / 20);
-        Check.same("ripple of cycle 2", x.count(8), voltage - 4);
+        Check.same("integral", x.count(6), -1899);
+        Check.same("duty", x.count(7), 420 - 18);
+        x.run(6);
+        Check.same("integral", x.count(6), 7 * -1899);
+        Check.same("duty with -13293 / 10000 = -1", x.count(7), 420 - 18 - 1);
     }
 
-    /** The output stays at 0 under so great a load: a current that is made stays. */
-    private static PhaseConverter shorted(int phases, int inductance) {
-        PhaseConverter x = new PhaseConverter();
-        x.begin(phases);
-        x.set(2, 60000);
-        x.set(3, inductance);
-        x.set(8, 2000);
+    /**
+     * Duty 50 with three phases, at an output of 0: a slot makes 100. Phase 0 has 100 when phase 1
+     * begins its pulse.
+     */
+    static PhaseConverter threeOf100(int balanceGain) {
+        PhaseConverter x = Converters.shorted(3, 100);
+        Converters.set(x, 0, 10000, 6, 0, 7, 0, 8, 500, 14, balanceGain);
+        x.start();
         return x;
     }
 
-    private static void restIsCarried() {
-        PhaseConverter x = shorted(1, 100);
-        x.set(6, 0);
-        x.set(7, 0);
-        x.set(10, 30000);
+    private static void clamping() {
+        // The duty: 166 + 1000 + 4 is nearer to 900 than to 0; far above the target 0 is nearer.
+        PhaseConverter x = Converters.shorted(1, 100);
         x.start();
-        // 1000 * 2000 / 12000 = 166: 3320 is 3 slots and rest 320.
         x.run(1);
-        Check.phase("cycle 1", x, 0, 3 * 120, 0, 320, 3, 0, 0, 1);
-        // The target is reached: 275, 5500 + 320 is 5 slots and rest 820.
+        Check.same("duty", x.count(7), 900);
+        PhaseConverter y = Converters.held(1, 30000);
+        Converters.set(y, 1, 500);
+        y.start();
+        y.run(1);
+        Check.same("duty", y.count(7), 0);
+        // The integral: 29500 is taken away in each cycle, and 500 added where the output is 0.
+        y.run(3);
+        Check.same("integral", y.count(6), -100000);
+        PhaseConverter z = Converters.shorted(1, 100);
+        z.start();
+        z.run(200);
+        Check.same("integral", z.count(6), 100000);
+        // The output voltage.
+        PhaseConverter v = Converters.held(1, 40000);
+        Check.same("voltage", v.record(1, 0), 40000);
+        v.set(2, 60000);
+        Check.same("voltage", v.run(1), 0);
+    }
+
+    private static void starved() {
+        PhaseConverter x = Converters.begun(1, 13, 12000);
+        x.start();
         x.run(1);
-        Check.phase("cycle 2", x, 0, 8 * 120, 0, 820, 8, 0, 0, 2);
+        Check.same("the least input is enough in the ramp", x.count(0), 1);
+        x.run(60);
+        Check.same("and afterwards", x.count(0), 2);
+        int integral = x.count(6);
+        int duty = x.count(7);
+        int pulses = Converters.pulsesBegun(x, 0);
+        x.set(13, 12001);
+        Check.same("set alone stops nothing", x.count(0), 2);
+        x.set(1, 5000);
         x.run(1);
-        Check.phase("cycle 3", x, 0, 14 * 120, 0, 320, 14, 0, 0, 3);
+        Check.same("one less is not", x.count(0), 4);
+        Check.same("it is stopped before the target moves", x.count(2), 3300);
+        Check.same("and before the integral", x.count(6), integral);
+        Check.same("and before the duty", x.count(7), duty);
+        Check.same("no pulse begins", Converters.pulsesBegun(x, 0), pulses);
+        Check.same("the record tells it", x.record(0, 4), 4);
+        PhaseConverter y = Converters.begun(2, 0, 4000);
+        y.start();
+        y.run(1);
+        y.set(0, 3999);
+        y.run(1);
+        Check.counts("in the ramp", y, 4, 0, 100);
+        // The input counts only while it runs.
+        y.stop();
+        y.run(1);
+        Check.same("off is not starved", y.count(0), 0);
+        PhaseConverter z = Converters.inMode(3);
+        z.set(13, 24000);
+        z.run(1);
+        Check.same("tripped is not starved", z.count(0), 3);
+        PhaseConverter first = Converters.begun(2, 13, 12001);
+        first.start();
+        first.run(1);
+        Check.counts("starved in the first cycle", first, 4, 0, 0, 2, 1, 0, 0, 0, 0, 0, 0, 0, 0, 2, 1);
     }
 
     private static void ramp() {
-        PhaseConverter x = new PhaseConverter();
+        PhaseConverter x = Converters.begun(1, 8, 1);
         x.start();
-        x.run(32);
-        Check.same("present target after 32 steps", x.count(2), 3200);
-        Check.same("mode", x.count(0), 1);
-        x.run(1);
-        Check.same("present target after 33 steps", x.count(2), 3300);
-        Check.same("the target reached exactly: mode", x.count(0), 2);
-        PhaseConverter y = shorted(2, 100);
-        y.set(8, 1999);
+        for (int i = 1; i <= 5; i++) {
+            x.run(1);
+            Check.counts("the least step", x, 1, 0, i);
+        }
+        PhaseConverter y = Converters.shorted(1, 100);
+        y.set(1, 12000);
         y.start();
+        for (int i = 1; i <= 5; i++) {
+            y.run(1);
+            Check.counts("the greatest step", y, 1, 0, 2000 * i);
+        }
+        y.set(8, 7);
         y.run(1);
-        Check.counts("one long step", y, 1, y.count(1), 1999);
+        Check.counts("another step", y, 1, 0, 10007);
+        y.stop();
         y.run(1);
-        Check.counts("a step beyond the target", y, 2, y.count(1), 3300);
+        Check.counts("no step when off", y, 0, 0, 10007);
     }
 
-    private static void targetIsMoved() {
-        PhaseConverter x = new PhaseConverter();
-        x.start();
-        x.run(40);
-        x.set(12, 30000);
-        x.set(1, 5000);
-        Check.same("set alone leaves the present target", x.count(2), 3300);
-        x.run(1);
-        Check.counts("the target raised in mode 2", x, 2, x.count(1), 5000);
-        x.set(1, 700);
-        x.run(1);
-        Check.counts("the target lowered in mode 2", x, 2, x.count(1), 700);
-        x.stop();
-        x.set(1, 900);
-        x.run(1);
-        Check.counts("the target moved when off", x, 0, x.count(1), 700);
+    private static void rampEnds() {
+        int[][] ends = {{2001, 2000, 1}, {2000, 2000, 2}, {1999, 1999, 2}, {500, 500, 2}};
+        for (int[] end : ends) {
+            PhaseConverter x = Converters.shorted(1, 100);
+            Converters.set(x, 1, end[0]);
+            x.start();
+            x.run(1);
+            Check.counts("a step of 2000 to " + end[0], x, end[2], 0, end[1]);
+            x.run(1);
+            Check.counts("another one", x, 2, 0, end[0]);
+        }
         PhaseConverter y = new PhaseConverter();
         y.start();
         y.run(10);
         y.set(1, 600);
         y.run(1);
         Check.counts("the target lowered in the ramp", y, 2, y.count(1), 600);
+        PhaseConverter z = Converters.held(1, 30000);
+        Converters.set(z, 1, 12000);
+        z.start();
+        z.run(1);
+        Check.counts("from above the target", z, 2, 30000, 12000);
     }
 
-    private static void dutyIsTheSumOfItsParts() {
-        PhaseConverter x = shorted(1, 100);
-        x.set(1, 10794);
-        x.set(6, 0);
-        x.set(7, 0);
+    private static void targetIsFollowed() {
+        PhaseConverter x = Converters.shorted(1, 100);
         x.start();
-        x.run(6);
-        Check.same("1000 * 10794 / 12000", x.count(7), 899);
-        x.set(1, 1200);
-        x.set(7, 20);
-        x.run(50);
-        Check.same("integral", x.count(6), 100000);
-        Check.same("100 + 200", x.count(7), 300);
-        x.set(7, 21);
-        x.set(6, 9);
+        x.run(2);
+        Check.counts("regulating", x, 2, 0, 3300);
+        x.set(1, 12000);
+        Check.same("set alone leaves the present target", x.count(2), 3300);
         x.run(1);
-        Check.same("100 + 108 + 210", x.count(7), 418);
-        // Above the target each part is truncated toward 0.
-        PhaseConverter y = highOutput(12000);
-        y.set(1, 12000);
-        y.start();
-        y.run(1);
-        y.set(0, 24000);
-        y.set(8, 2000);
-        y.set(6, 1);
-        y.set(7, 1);
-        y.run(5);
-        // 100, then 2100 to 10100 less 12000: 100 - 9900 - 7900 - 5900 - 3900 - 1900.
-        Check.same("integral", y.count(6), -29400);
-        Check.same("420 - 1900 / 100 - 29400 / 10000", y.count(7), 420 - 19 - 2);
+        Check.counts("raised at once, not by steps", x, 2, 0, 12000);
+        x.set(1, 500);
+        x.run(1);
+        Check.counts("lowered at once", x, 2, 0, 500);
+        x.stop();
+        x.set(1, 900);
+        x.run(1);
+        Check.counts("not when off", x, 0, 0, 500);
+        x.start();
+        Converters.set(x, 8, 1, 13, 24000);
+        x.run(1);
+        Check.counts("not when starved", x, 4, 0, 0);
     }
 
-    private static void dutyIsClamped() {
-        PhaseConverter x = shorted(1, 100);
+    private static void errorIsTargetLessVoltage() {
+        // The target of this cycle, after its step.
+        PhaseConverter x = Converters.held(1, 3300);
+        Converters.set(x, 1, 12000, 3, 100, 4, 500, 8, 70);
         x.start();
-        // 166 + 1000 + 4
         x.run(1);
-        Check.same("duty", x.count(7), 900);
-        Check.phase("cycle 1", x, 0, 18 * 120, 0, 0, 18, 0, 0, 1);
-        PhaseConverter y = new PhaseConverter();
-        y.begin(1);
-        y.set(2, 0);
-        y.set(12, 30000);
+        Check.same("3370 - 3300", x.count(6), 70);
+        PhaseConverter y = Converters.held(1, 30000);
+        Converters.set(y, 1, 12000);
         y.start();
-        y.run(60);
-        y.set(1, 500);
         y.run(1);
-        Check.same("duty far above the target", y.count(7), 0);
+        Check.same("12000 - 30000", y.count(6), -18000);
+        y.stop();
+        y.run(1);
+        Check.same("not when off", y.count(6), -18000);
+        PhaseConverter z = Converters.inMode(3);
+        z.run(1);
+        Check.same("not when tripped", z.count(6), 100);
     }
 
     private static void integralIsClamped() {
-        PhaseConverter x = shorted(1, 100);
+        PhaseConverter x = Converters.shorted(1, 100);
         x.set(1, 12000);
         x.start();
-        int[] due = {2000, 6000, 12000, 20000, 30000, 42000, 54000, 66000, 78000, 90000, 100000, 100000};
+        int[] due = {2000, 6000, 12000, 20000, 30000, 42000, 54000, 66000, 78000, 90000};
         for (int value : due) {
             x.run(1);
             Check.same("integral", x.count(6), value);
         }
-        PhaseConverter y = highOutput(12000);
+        cycleWithTarget(x, 9999, 99999);
+        cycleWithTarget(x, 500, 100000);
+        cycleWithTarget(x, 12000, 100000);
+        PhaseConverter y = Converters.held(1, 12000);
         y.set(1, 500);
         y.start();
-        y.run(1);
-        Check.same("integral", y.count(6), 100);
-        int integral = 100;
-        for (int target = 200; target <= 1400; target += 100) {
-            y.run(1);
-            integral = Math.max(-100000, integral + Math.min(target, 500) - 12000);
-            Check.same("negative integral", y.count(6), integral);
-        }
-        Check.same("least integral", y.count(6), -100000);
-        Check.same("duty", y.count(7), 0);
-    }
-
-    private static void starved() {
-        PhaseConverter x = new PhaseConverter();
-        x.set(0, 4000);
-        x.set(1, 2000);
-        x.set(2, 60000);
-        x.set(3, 100);
-        x.set(8, 2000);
-        x.start();
-        x.run(5);
-        Check.same("the least input is enough", x.count(0), 2);
-        Check.same("a pulse is on", x.phase(1, 1) > 0 ? 1 : 0, 1);
-        int integral = x.count(6);
-        int duty = x.count(7);
-        int pulses = x.phase(0, 6);
-        int slots = x.phase(0, 3) + x.phase(1, 3);
-        x.set(13, 4001);
-        Check.same("set alone stops nothing", x.count(0), 2);
-        x.run(1);
-        Check.same("starved", x.count(0), 4);
-        Check.same("present target stays", x.count(2), 2000);
-        Check.same("integral stays", x.count(6), integral);
-        Check.same("duty stays", x.count(7), duty);
-        Check.same("no pulse begins", x.phase(0, 6), pulses);
-        Check.same("the pulse that was on ends at once", x.phase(0, 3) + x.phase(1, 3), slots);
-        Check.record("starved", x, 0, x.count(1), x.count(5), x.count(8), 2, 4, 0);
-        // The input counts only while it runs.
-        x.stop();
-        x.run(1);
-        Check.same("off is not starved", x.count(0), 0);
-        x.start();
-        Check.same("it can be started", x.count(0), 1);
-        x.run(1);
-        Check.same("starved in the ramp", x.count(0), 4);
-        PhaseConverter y = new PhaseConverter();
-        y.set(13, 12001);
-        y.start();
-        y.run(1);
-        Check.counts("starved in the first cycle", y, 4, 0, 0, 2, 1, 0, 0, 0, 0, 0, 0, 0, 0, 2, 1);
-    }
-
-    private static void pulsesBeginAtTheirSlots() {
-        // One slot on makes 12000, then the limit keeps it: 600 of the mean a slot.
-        int[] slotsLeft = {0, 20, 20 + 10, 20 + 14 + 7, 20 + 15 + 10 + 5};
-        for (int phases = 1; phases <= 4; phases++) {
-            PhaseConverter x = shorted(phases, 1);
-            x.start();
-            x.run(1);
-            Check.same("mean current with phases " + phases, x.count(5), 600 * slotsLeft[phases]);
-            for (int p = 0; p < phases; p++) {
-                Check.phase("pulse at its slot", x, p, 12000, 0, 0, 1, 1, 0, 1);
-            }
-            Check.same("limit events", x.count(9), phases);
-        }
-    }
-
-    private static void currentLimit() {
-        PhaseConverter x = shorted(1, 1);
-        x.set(5, 12000);
-        x.start();
-        x.run(1);
-        Check.phase("at the limit", x, 0, 12000, 0, 0, 1, 1, 0, 1);
-        Check.record("at the limit", x, 0, 0, 12000, 0, 1, 1, 1);
-        x.run(1);
-        Check.phase("at the limit again", x, 0, 12000, 0, 0, 1, 2, 0, 2);
-        Check.same("limit events", x.count(9), 2);
-        Check.record("at the limit again", x, 0, 0, 12000, 0, 1, 2, 1);
-        PhaseConverter y = shorted(1, 1);
-        y.set(5, 12001);
-        y.start();
-        y.run(1);
-        Check.phase("one below the limit", y, 0, 24000, 0, 0, 2, 1, 0, 1);
-        Check.same("greatest current", y.count(11), 24000);
-        Check.same("mean current", y.count(5), (12000 + 19 * 24000) / 20);
-        // 166 is 3 slots; the limit is met when the last of them is left.
-        PhaseConverter z = shorted(1, 100);
-        z.set(5, 240);
-        z.set(6, 0);
-        z.set(7, 0);
-        z.start();
-        z.run(1);
-        Check.phase("with one slot left", z, 0, 240, 0, 320, 2, 1, 0, 1);
-        // 275 is 5 slots, all of them lost to the limit at the first.
-        z.run(1);
-        Check.phase("an event ends the pulse", z, 0, 240, 0, 820, 2, 2, 0, 2);
-    }
-
-    private static void currentLimitOfAnEarlierPulse() {
-        PhaseConverter x = shorted(2, 100);
-        x.start();
-        x.run(1);
-        // Phase 1 began at slot 10 and has 8 of its 18 slots left.
-        Check.phase("a pulse over the end of a cycle", x, 1, 10 * 120, 8, 0, 10, 0, 0, 1);
-        x.set(5, 1200);
-        x.run(1);
-        // Phase 0 has 480 above the mean: 900 - 48 = 852, 17040.
-        Check.phase("phase 0 is above the limit", x, 0, 18 * 120, 0, 40, 18, 1, 0, 2);
-        Check.phase("phase 1 meets it twice", x, 1, 1200, 0, 0, 10, 2, 0, 2);
-        Check.same("limit events of the cycle", x.record(0, 5), 3);
-        Check.same("limit events before", x.record(1, 5), 0);
-        Check.same("limit events", x.count(9), 3);
-    }
-
-    private static void balance() {
-        PhaseConverter x = shorted(2, 100);
-        x.set(6, 0);
-        x.set(7, 0);
-        x.start();
-        // Duty 166. Phase 1 begins when phase 0 has 360: 166 + 180 * 100 / 1000 = 184.
-        x.run(1);
-        Check.phase("cycle 1", x, 0, 360, 0, 320, 3, 0, 0, 1);
-        Check.phase("cycle 1", x, 1, 360, 0, 680, 3, 0, 0, 1);
-        // Duty 275: 5820, then 275 + 30 = 305: 6780.
-        x.run(1);
-        Check.phase("cycle 2", x, 0, 960, 0, 820, 8, 0, 0, 2);
-        Check.phase("cycle 2", x, 1, 1080, 0, 780, 9, 0, 0, 2);
-        Check.same("unbalance", x.unbalance(), 120);
-        // 275 + 6 = 281: 6440; then 305: 6880.
-        x.run(1);
-        Check.phase("cycle 3", x, 0, 1680, 0, 440, 14, 0, 0, 3);
-        Check.phase("cycle 3", x, 1, 1800, 0, 880, 15, 0, 0, 3);
-        // Without a gain both get 275.
-        x.set(14, 0);
-        x.run(1);
-        Check.phase("cycle 4", x, 0, 1680 + 5 * 120, 0, 940, 19, 0, 0, 4);
-        Check.phase("cycle 4", x, 1, 1800 + 6 * 120, 0, 380, 21, 0, 0, 4);
-    }
-
-    private static void balanceIsClampedAtNothing() {
-        PhaseConverter x = shorted(2, 100);
-        x.set(14, 1000);
-        x.set(0, 1000);
-        x.set(13, 0);
-        x.set(6, 0);
-        x.set(7, 0);
-        x.start();
-        // Duty 900; phase 1 gets no more than 900 either.
-        x.run(1);
-        Check.phase("clamped above", x, 0, 180, 0, 0, 18, 0, 0, 1);
-        Check.phase("clamped above", x, 1, 100, 8, 0, 10, 0, 0, 1);
-        // Phase 0 has 80 more than phase 1 has, 40 above the mean: 900 - 40 = 860, 17 slots, rest 200.
-        x.run(1);
-        Check.same("duty", x.count(7), 900);
-        Check.phase("less than the duty", x, 0, 350, 0, 200, 35, 0, 0, 2);
-        Check.phase("clamped above", x, 1, 280, 8, 0, 28, 0, 0, 2);
-        // With a tiny duty the excess of phase 0 takes all of it.
-        x.set(0, 24000);
-        x.set(1, 500);
-        x.run(1);
-        Check.same("duty", x.count(7), 20);
-        Check.phase("clamped to 0", x, 0, 350, 0, 200, 35, 0, 0, 3);
-    }
-
-    /** One slot on lifts the output to the input voltage at once; without a load it stays there. */
-    private static PhaseConverter highOutput(int overvoltage) {
-        PhaseConverter x = new PhaseConverter();
-        x.begin(1);
-        x.set(2, 0);
-        x.set(3, 1);
-        x.set(4, 1);
-        x.set(12, overvoltage);
-        return x;
-    }
-
-    private static void overvoltage() {
-        PhaseConverter x = highOutput(12000);
-        x.start();
-        Check.same("run(1)", x.run(1), 12000);
-        Check.counts("just not too high", x, 1, 12000, 100, 1, 1, 600, 100, 58, 0, 0, 0, 12000, 0, 1, 1);
-        Check.phase("the current has fallen", x, 0, 0, 0, 160, 1, 0, 0, 1);
-        PhaseConverter y = highOutput(11999);
-        y.start();
-        y.run(1);
-        Check.counts("too high", y, 3, 12000, 100, 1, 1, 600, 100, 58, 0, 0, 0, 12000, 0, 1, 1);
-        y.run(5);
-        Check.counts("tripped it stays", y, 3, 12000, 100, 1, 6, 0, 100, 58, 0, 0, 0, 12000, 0, 1, 6);
-        Check.phase("no more pulses", y, 0, 0, 0, 160, 1, 0, 0, 1);
-        Check.same("it can be started again", y.start(), 12000);
-        y.run(1);
-        Check.same("and trips again", y.count(0), 3);
-        // The level is looked at when the converter runs, not when it is off.
-        y.stop();
-        y.run(1);
-        Check.same("off is not tripped", y.count(0), 0);
-    }
-
-    private static void voltageIsClamped() {
-        PhaseConverter x = new PhaseConverter();
-        x.begin(4);
-        x.set(0, 24000);
-        x.set(2, 0);
-        x.set(3, 1);
-        x.set(4, 1);
-        x.set(5, 30000);
-        x.set(8, 2000);
-        x.set(12, 30000);
-        x.start();
-        // 24000, then 48000 is clamped to 40000 and trips; the other phases never begin.
-        Check.same("run(1)", x.run(1), 40000);
-        Check.counts("clamped", x, 3, 40000, 2000, 4, 1, 2400, 2000, 900, 16000, 0, 0, 24000, 0, 4, 1);
-        Check.phase("phase 0", x, 0, 0, 0, 0, 2, 0, 0, 1);
-        Check.phase("phase 1", x, 1, 0, 0, 0, 0, 0, 0, 0);
-        Check.asks("ifLoaded least", x, 0, () -> x.ifLoaded(40000, 1, 1));
-        x.set(2, 60000);
-        Check.same("clamped below", x.run(1), 0);
-        Check.same("ripple", x.count(8), 0);
-        PhaseConverter y = new PhaseConverter();
+        y.run(8);
+        Check.same("8 * -11500", y.count(6), -92000);
+        cycleWithTarget(y, 4001, -99999);
+        cycleWithTarget(y, 11999, -100000);
+        cycleWithTarget(y, 11999, -100000);
+        cycleWithTarget(y, 500, -100000);
+        // It leaves the bound at once: what was clamped away is not kept.
         y.set(2, 60000);
-        Check.same("a load at 0", y.run(1), 0);
+        y.run(1);
+        Check.same("the output is 0", y.count(1), 0);
+        cycleWithTarget(y, 500, -99500);
     }
 
-    private static void skippedPulses() {
-        PhaseConverter x = highOutput(12000);
+    private static void cycleWithTarget(PhaseConverter x, int target, int integral) {
+        x.set(1, target);
+        x.run(1);
+        Check.same("integral with the target " + target, x.count(6), integral);
+    }
+
+    private static void dutyIsTheSumOfItsParts() {
+        PhaseConverter x = Converters.shorted(1, 100);
+        Converters.set(x, 1, 1199, 6, 0, 7, 0);
         x.start();
         x.run(1);
-        // In the ramp the mean current of 600 does not matter.
+        Check.same("1000 * 1199 / 12000", x.count(7), 99);
+        x.set(6, 1);
         x.run(1);
-        Check.phase("skipped in the ramp", x, 0, 0, 0, 160, 1, 0, 1, 1);
-        Check.same("skipped", x.count(10), 1);
-        x.set(9, 0);
+        Check.same("99 and 1199 / 100", x.count(7), 99 + 11);
+        Converters.set(x, 6, 50, 7, 1);
+        x.run(18);
+        Check.same("integral", x.count(6), 20 * 1199);
+        Check.same("99, 1199 * 50 / 100 and 23980 / 10000", x.count(7), 99 + 599 + 2);
+        Converters.set(x, 6, 0, 7, 21);
         x.run(1);
-        Check.phase("the skip level does not matter there", x, 0, 0, 0, 160, 1, 0, 2, 1);
-        x.run(29);
-        Check.counts("the last cycle of the ramp", x, 1, 12000, 3200);
-        Check.same("skipped", x.count(10), 31);
+        Check.same("99 and 25179 * 21 / 10000", x.count(7), 99 + 52);
+        x.set(0, 24000);
         x.run(1);
-        Check.counts("regulating", x, 2, 12000, 3300);
-        Check.phase("not below the level of 0: a pulse without a slot", x, 0, 0, 0, 160, 1, 0, 31, 2);
-        x.set(9, 1);
-        x.run(1);
-        Check.phase("below the level of 1: skipped", x, 0, 0, 0, 160, 1, 0, 32, 2);
-        Check.same("skipped", x.count(10), 32);
-        // An output equal to the present target is enough to skip, one less is not.
-        x.set(1, 12000);
-        x.run(1);
-        Check.phase("at the target: skipped", x, 0, 0, 0, 160, 1, 0, 33, 2);
-        x.set(1, 11999);
-        x.run(1);
-        Check.phase("above the target: skipped", x, 0, 0, 0, 160, 1, 0, 34, 2);
-        PhaseConverter y = highOutput(12000);
+        Check.same("1000 * 1199 / 24000 and 26378 * 21 / 10000", x.count(7), 49 + 55);
+        // The target of the ramp, not the one to come.
+        PhaseConverter y = Converters.begun(1);
         y.start();
         y.run(1);
-        y.stop();
-        y.set(0, 24000);
-        y.set(1, 12000);
-        y.set(4, 500);
-        y.set(2, 500);
-        y.set(12, 30000);
-        y.start();
-        // The present target is the output itself and one step more.
-        y.run(1);
-        Check.phase("below the target: not skipped", y, 0, y.phase(0, 0), y.phase(0, 1), y.phase(0, 2),
-            y.phase(0, 3), y.phase(0, 4), 0, 2);
+        Check.same("8 + 50 + 0", y.count(7), 58);
     }
 
-    private static void skippedByMeanCurrent() {
-        // Off, a current would fall; so the mean current is made by the cycle before.
-        PhaseConverter x = highOutput(12000);
-        x.set(1, 500);
-        x.set(8, 500);
-        x.set(9, 600);
+    private static void dutyIsClamped() {
+        PhaseConverter x = Converters.shorted(1, 100);
+        Converters.set(x, 1, 12000, 6, 0, 7, 0);
         x.start();
-        x.run(1);
-        Check.counts("regulating at once", x, 2, 12000, 500, 1, 1, 600);
-        x.run(1);
-        Check.same("a mean current at the level does not skip", x.phase(0, 5), 0);
-        Check.same("the pulse counts", x.phase(0, 6), 2);
-        PhaseConverter y = highOutput(12000);
-        y.set(1, 500);
-        y.set(8, 500);
-        y.set(9, 601);
-        y.start();
-        y.run(2);
-        Check.same("a mean current below the level skips", y.phase(0, 5), 1);
-        Check.same("the skipped pulse does not count", y.phase(0, 6), 1);
-    }
-
-    private static void pulsesOfNoLength() {
-        PhaseConverter x = shorted(1, 100);
-        x.set(6, 0);
-        x.set(7, 0);
-        x.set(8, 100);
-        x.start();
-        // 8, 16, 25: 160, 480, 980 are no slot, 33 makes it 1640.
-        int[] rests = {160, 480, 980, 640};
-        for (int i = 0; i < rests.length; i++) {
+        x.run(6);
+        int[][] upper = {{10799, 899}, {10800, 900}, {10812, 900}, {12000, 900}};
+        for (int[] each : upper) {
+            x.set(1, each[0]);
             x.run(1);
-            Check.phase("short pulses", x, 0, i == 3 ? 120 : 0, 0, rests[i], i == 3 ? 1 : 0, 0, 0, i + 1);
+            Check.same("duty with the target " + each[0], x.count(7), each[1]);
+        }
+        // 1000 * 11880 / 24000 = 495, and -120 times the gain.
+        PhaseConverter y = Converters.held(1, 12000);
+        Converters.set(y, 1, 11880, 7, 0);
+        y.start();
+        int[][] lower = {{412, 1}, {413, 0}, {414, 0}, {500, 0}};
+        for (int[] each : lower) {
+            y.set(6, each[0]);
+            y.run(1);
+            Check.same("duty with the gain " + each[0], y.count(7), each[1]);
         }
     }
 
-    private static void shedding() {
-        PhaseConverter x = shorted(4, 1);
-        x.set(10, 30000);
+    private static void twentySlots() {
+        PhaseConverter x = Converters.held(1, 40000);
+        x.set(2, 1);
+        Check.same("a slot takes 1", x.run(1), 40000 - 20);
+        // Phase 0 begins its pulse of 18 slots in slot 0, phase 1 in slot 10: 10 slots are left.
+        PhaseConverter y = Converters.shorted(2, 100);
+        y.start();
+        y.run(1);
+        Check.phase("phase 0", y, 0, 18 * 120, 0, 0, 18, 0, 0, 1);
+        Check.phase("phase 1", y, 1, 10 * 120, 8, 0, 10, 0, 0, 1);
+        y.run(1);
+        Check.same("phase 1 goes on in slot 0", y.phase(1, 3), 10 + 8 + 10);
+    }
+
+    private static void meanCurrent() {
+        // 10, 20 and then 30 in 18 slots, by three slots on: 570 / 20.
+        PhaseConverter x = Converters.shorted(1, 100);
+        Converters.set(x, 0, 1000, 1, 500, 6, 0, 7, 0, 8, 150, 13, 0);
         x.start();
-        x.run(2);
-        Check.same("mean current", x.count(5), 48000);
-        // Not below 16000 * 3.
-        x.set(11, 16000);
-        x.run(10);
-        Check.same("at the level nothing is shed", x.count(3), 4);
-        x.set(11, 16001);
-        x.run(4);
-        Check.same("four light cycles", x.count(3), 4);
         x.run(1);
-        Check.counts("the fifth", x, 2, 0, 3300, 3);
-        Check.same("changes", x.count(12), 1);
-        Check.same("the record tells it", x.record(0, 3), 3);
-        Check.same("the record before", x.record(1, 3), 4);
-        // 48000 is not below 16001 * 2: it ends there.
-        x.run(10);
-        Check.same("three stay", x.count(3), 3);
-        Check.same("the shed phase gets no pulses", x.phase(3, 6), 16);
-        Check.same("the others do", x.phase(2, 6), 27);
-        x.set(11, 30000);
-        x.run(5);
-        Check.same("two", x.count(3), 2);
-        x.run(20);
-        Check.same("48000 is not below 30000 * 1", x.count(3), 2);
-        PhaseConverter y = new PhaseConverter();
+        Check.phase("three slots", x, 0, 30, 0, 0, 3);
+        Check.same("570 / 20", x.count(5), 28);
+        // All phases count, whether they are active or not.
+        PhaseConverter y = Converters.shorted(2, 1);
         y.set(11, 30000);
         y.start();
         y.run(5);
-        Check.same("one", y.count(3), 1);
-        y.run(20);
-        Check.same("the last phase is never shed", y.count(3), 1);
-        Check.same("changes", y.count(12), 1);
-        // Off, no cycle sheds.
-        PhaseConverter z = new PhaseConverter();
-        z.set(11, 30000);
-        z.run(20);
-        Check.same("off", z.count(3), 2);
+        Check.same("phase 1 was shed", y.count(3), 1);
+        Check.same("both count", y.count(5), 24000);
+        y.stop();
+        y.run(1);
+        Check.same("when off too", y.count(5), 24000);
+        // One slot on makes 12000 at the slots 0, 6 and 13: 20 + 14 + 7 slots of 12000.
+        PhaseConverter z = Converters.shorted(3, 1);
+        z.start();
+        z.run(1);
+        Check.same("three phases", z.count(5), 41 * 600);
+        Check.same("no current", Converters.held(1, 40000).count(5), 0);
     }
 
-    private static void sheddingEndsAPulse() {
-        PhaseConverter x = shorted(2, 100);
-        x.set(5, 30000);
-        x.set(11, 30000);
-        x.start();
-        x.run(4);
-        Check.same("a pulse of phase 1 is on", x.phase(1, 1) > 0 ? 1 : 0, 1);
-        int slots = x.phase(1, 3);
-        int current = x.phase(1, 0);
+    private static void ripple() {
+        // At the ends of the slots 39900 to 38000: the 40000 at the beginning do not count.
+        PhaseConverter x = Converters.held(1, 40000);
+        x.set(2, 100);
         x.run(1);
-        Check.same("active", x.count(3), 1);
-        Check.same("the pulse ended", x.phase(1, 1), 0);
-        Check.same("no slot more", x.phase(1, 3), slots);
-        Check.same("the current of a shed phase counts on", x.phase(1, 0), current);
-        Check.same("but not for the unbalance", x.unbalance(), 0);
-        // Nor for the balance: the only active phase is at the mean of the active ones.
-        x.set(14, 1000);
-        int before = x.phase(0, 3);
+        Check.same("falling", x.count(8), 1900);
+        x.set(2, 0);
         x.run(1);
-        Check.same("duty", x.count(7), 900);
-        Check.same("slots on", x.phase(0, 3), before + 18);
+        Check.same("standing", x.count(8), 0);
+        PhaseConverter y = Converters.highOutput(30000);
+        y.start();
+        y.run(1);
+        Check.same("12000 at the ends of all slots", y.count(8), 0);
+        // 24000 at the end of slot 0, 40000 afterwards.
+        PhaseConverter z = Converters.held(1, 0);
+        z.start();
+        z.run(1);
+        Check.same("rising", z.count(8), 16000);
     }
 
-    private static void adding() {
-        PhaseConverter x = shorted(2, 1);
-        x.start();
-        x.run(2);
-        x.set(11, 24001);
-        x.run(5);
-        Check.same("shed", x.count(3), 1);
-        Check.same("mean current", x.count(5), 24000);
-        x.set(11, 0);
-        x.set(10, 24000);
-        x.run(10);
-        Check.same("at the level nothing is added", x.count(3), 1);
-        x.set(10, 23999);
-        x.run(2);
-        Check.same("two heavy cycles", x.count(3), 1);
-        int pulses = x.phase(1, 6);
+    private static void recorded() {
+        PhaseConverter x = Converters.held(1, 40000);
+        x.set(2, 100);
         x.run(1);
-        Check.same("the third", x.count(3), 2);
-        Check.same("changes", x.count(12), 2);
-        Check.same("the added phase gets its pulse in this cycle", x.phase(1, 6), pulses + 1);
-        x.set(10, 1);
-        x.run(10);
-        Check.same("no more than there are", x.count(3), 2);
-        Check.same("changes", x.count(12), 2);
+        Check.same("records", x.count(14), 3);
+        Check.record("off", x, 0, 38000, 0, 1900, 1, 0, 0);
+        PhaseConverter y = Converters.shorted(2, 1);
+        y.start();
+        y.run(1);
+        Check.record("running", y, 0, 0, 600 * 30, 0, 2, 1, 2);
+        PhaseConverter z = Converters.begun(3, 13, 24000);
+        z.start();
+        z.run(1);
+        Check.record("starved", z, 0, 0, 0, 0, 3, 4, 0);
     }
 
-    private static void addingAllAgain() {
-        PhaseConverter x = shorted(4, 1);
-        x.set(10, 30000);
-        x.set(11, 30000);
-        x.start();
-        int[] due = {4, 4, 4, 4, 3, 3, 3, 3, 3, 2};
-        for (int active : due) {
+    private static void sixteenRecords() {
+        // The two cycles of held, and then 20 less in each.
+        PhaseConverter x = Converters.held(1, 40000);
+        x.set(2, 1);
+        for (int i = 3; i <= 40; i++) {
             x.run(1);
-            Check.same("active while shedding", x.count(3), active);
+            int kept = Math.min(i, 16);
+            Check.same("records after " + i, x.count(14), kept);
+            Check.same("the latest", x.record(0, 0), 40000 - 20 * (i - 2));
+            Check.same("the oldest", x.record(kept - 1, 0), 40000 - 20 * Math.max(0, i - kept - 1));
         }
-        x.set(11, 0);
-        x.set(10, 1);
-        int[] dueAgain = {2, 2, 3, 3, 3, 4, 4, 4, 4};
-        for (int active : dueAgain) {
-            x.run(1);
-            Check.same("active while adding", x.count(3), active);
+        Check.refuses("record(16, 0)", x, Check.INDEX, () -> x.record(16, 0));
+        for (int i = 0; i < 16; i++) {
+            Check.same("record(" + i + ", 0)", x.record(i, 0), 40000 - 20 * (38 - i));
         }
-        Check.same("changes", x.count(12), 4);
-    }
-
-    private static void countsBeginAnew() {
-        PhaseConverter x = shorted(3, 1);
-        x.start();
-        x.run(2);
-        x.set(11, 30000);
-        x.run(4);
-        x.set(11, 0);
-        x.run(1);
-        x.set(11, 30000);
-        x.run(4);
-        Check.same("a cycle between clears the shedding count", x.count(3), 3);
-        x.run(1);
-        Check.same("five in a row shed", x.count(3), 2);
-        x.set(11, 0);
-        x.set(10, 17999);
-        x.run(2);
-        x.set(10, 18000);
-        x.run(1);
-        x.set(10, 17999);
-        x.run(2);
-        Check.same("a cycle between clears the adding count", x.count(3), 2);
-        x.run(1);
-        Check.same("three in a row add", x.count(3), 3);
-        // Both at once: adding goes first and clears the shedding count.
-        x.set(10, 30000);
-        x.set(11, 30000);
-        x.run(5);
-        Check.same("shed again", x.count(3), 2);
-        x.set(11, 30000);
-        x.set(10, 1);
-        // 36000 is above 2 and not below 30000.
-        x.run(3);
-        Check.same("added again", x.count(3), 3);
-        x.run(4);
-        Check.same("the shedding count began anew", x.count(3), 3);
-        x.run(1);
-        Check.same("the fifth light cycle", x.count(3), 2);
-    }
-
-    private static void fallingCurrent() {
-        PhaseConverter x = highOutput(30000);
-        x.set(3, 7);
-        x.set(4, 500);
-        x.start();
-        x.run(40);
-        x.stop();
-        int voltage = x.count(1);
-        int current = x.phase(0, 0);
-        int sum = 0;
-        for (int slot = 0; slot < 20; slot++) {
-            current = Math.max(0, current - voltage / 7);
-            voltage = voltage + current / 500;
-            sum += current;
-        }
-        x.run(1);
-        Check.same("voltage", x.count(1), voltage);
-        Check.same("current", x.phase(0, 0), current);
-        Check.same("mean current", x.count(5), sum / 20);
-    }
-
-    private static void inputBelowOutput() {
-        // The output is at 12000 when the input falls to 1000: a pulse takes current away.
-        PhaseConverter x = highOutput(12000);
-        x.start();
-        x.run(1);
-        x.set(0, 1000);
-        x.set(13, 0);
-        x.set(1, 12000);
-        x.set(8, 2000);
-        x.set(9, 0);
-        x.run(8);
-        Check.counts("regulating", x, 2, 12000, 12000);
-        Check.same("duty", x.count(7), 900);
-        Check.phase("on without a current", x, 0, 0, 0, x.phase(0, 2), 1 + 18 * 3, 0, 5, 4);
-    }
-
-    private static void recordsOfACycle() {
-        PhaseConverter x = shorted(2, 1);
-        x.start();
-        x.run(1);
-        Check.record("mean, phases, mode and limit events", x, 0, 0, 18000, 0, 2, 1, 2);
-        x.set(2, 10000);
-        x.set(4, 500);
-        x.run(1);
-        Check.record("voltage, mean current and ripple", x, 0, x.count(1), x.count(5), x.count(8), 2, 2, 2);
-        Check.same("the ripple is not 0", x.count(8) > 0 ? 1 : 0, 1);
+        x.run(200);
+        Check.same("records after many", x.count(14), 16);
+        Check.same("the oldest", x.record(15, 0), 40000 - 20 * (238 - 15));
     }
 }
