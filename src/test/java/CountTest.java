@@ -66,10 +66,13 @@ public final class CountTest {
     }
 
     private static void countChangesNothing() {
-        PhaseConverter x = Converters.running(3, 5000, 21);
+        PhaseConverter x = Converters.shorted(3, 7);
+        x.start();
+        x.run(21);
+        long before = x.digest();
         for (int what = 0; what <= 14; what++) {
-            int asked = what;
-            Check.asks("count(" + what + ")", x, x.count(what), () -> x.count(asked));
+            x.count(what);
+            Check.same("digest after count(" + what + ")", x.digest(), before);
         }
     }
 
@@ -255,11 +258,18 @@ public final class CountTest {
         x.start();
         Check.same("mean current", x.count(5), 0);
         Check.same("ripple", x.count(8), 0);
-        PhaseConverter y = Converters.running(2, 5000, 30);
-        y.begin(2);
+        PhaseConverter y = Converters.shorted(2, 1);
         y.start();
+        y.run(2);
+        Check.same("a mean current", y.count(5), 24000);
+        y.begin(2);
         Check.same("mean current after begin", y.count(5), 0);
-        Check.same("ripple after begin", y.count(8), 0);
+        PhaseConverter z = Converters.held(1, 40000);
+        z.set(2, 100);
+        z.run(1);
+        Check.same("a ripple", z.count(8), 1900);
+        z.begin(2);
+        Check.same("ripple after begin", z.count(8), 0);
     }
 
     private static void dutyBeforeItIsComputed() {
@@ -306,12 +316,13 @@ public final class CountTest {
     }
 
     private static void phaseChangesNothing() {
-        PhaseConverter x = Converters.running(4, 9000, 33);
-        for (int p = 0; p < 4; p++) {
+        PhaseConverter x = CycleTest.threeOf100(1000);
+        x.run(2);
+        long before = x.digest();
+        for (int p = 0; p < 3; p++) {
             for (int what = 0; what <= 6; what++) {
-                int phase = p;
-                int asked = what;
-                Check.asks("phase(" + p + ", " + what + ")", x, x.phase(p, what), () -> x.phase(phase, asked));
+                x.phase(p, what);
+                Check.same("digest after phase(" + p + ", " + what + ")", x.digest(), before);
             }
         }
     }
@@ -461,9 +472,12 @@ public final class CountTest {
 
     private static void recordChangesNothing() {
         PhaseConverter x = Converters.running(2, 3000, 20);
-        for (int what = 0; what <= 5; what++) {
-            int asked = what;
-            Check.asks("record(15, " + what + ")", x, x.record(15, what), () -> x.record(15, asked));
+        long before = x.digest();
+        for (int index = 0; index < 16; index++) {
+            for (int what = 0; what <= 5; what++) {
+                x.record(index, what);
+                Check.same("digest after record(" + index + ", " + what + ")", x.digest(), before);
+            }
         }
     }
 

@@ -284,6 +284,15 @@ public final class CycleTest {
         x.set(0, 24000);
         x.run(1);
         Check.same("1000 * 1199 / 24000 and 26378 * 21 / 10000", x.count(7), 49 + 55);
+        // 83, and -9999 / 10000, which is 0.
+        PhaseConverter z = Converters.held(1, 12000);
+        Converters.set(z, 1, 2001, 6, 0, 7, 1);
+        z.start();
+        z.run(1);
+        Check.same("integral", z.count(6), -9999);
+        Check.same("83 + 0", z.count(7), 83);
+        z.run(1);
+        Check.same("83 and -19998 / 10000", z.count(7), 83 - 1);
         // The target of the ramp, not the one to come.
         PhaseConverter y = Converters.begun(1);
         y.start();
@@ -352,6 +361,12 @@ public final class CycleTest {
         z.run(1);
         Check.same("three phases", z.count(5), 41 * 600);
         Check.same("no current", Converters.held(1, 40000).count(5), 0);
+        // 11 to 198 in 18 slots, and 78 and 0: 1959 / 20.
+        PhaseConverter w = Converters.steady(1);
+        w.set(0, 13100);
+        w.start();
+        w.run(1);
+        Check.same("1959 / 20", w.count(5), 97);
     }
 
     private static void ripple() {

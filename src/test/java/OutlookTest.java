@@ -62,6 +62,13 @@ public final class OutlookTest {
                 Check.same("active phases" + with, x.ifLoaded(load, cycles, 4), twin.count(3));
             }
         }
+        // A pulse that is on goes on: phase 1 has 8 slots left, and so 2160 before its next pulse.
+        PhaseConverter on = Converters.shorted(2, 100);
+        on.set(14, 1000);
+        on.start();
+        on.run(1);
+        Check.phase("phase 1 is on", on, 1, 1200, 8);
+        Check.same("2160 and 10 slots more", on.ifLoaded(60000, 1, 5), 2160 + 1200);
         // It follows the ramp, from the very beginning too.
         PhaseConverter x = new PhaseConverter();
         x.start();
@@ -74,7 +81,7 @@ public final class OutlookTest {
     }
 
     /** With an adding or a shedding count that the next cycle completes. */
-    private static PhaseConverter beforeAChange(boolean adding) {
+    static PhaseConverter beforeAChange(boolean adding) {
         PhaseConverter x = Converters.shorted(3, 100);
         Converters.set(x, 5, 100, 11, 30000);
         x.start();
@@ -151,6 +158,10 @@ public final class OutlookTest {
         Check.asks("after a cycle", x, 38000, () -> x.ifLoaded(100, 1, 0));
         Check.asks("down to 0", x, 0, () -> x.ifLoaded(100, 20, 0));
         Check.asks("and not below", x, 0, () -> x.ifLoaded(100, 21, 0));
+        // 24000 at the end of slot 0, 40000 in slot 1, and then 1 less in each slot.
+        PhaseConverter y = Converters.held(1, 0);
+        y.start();
+        Check.asks("between the least and the greatest", y, 40000 - 18, () -> y.ifLoaded(1, 1, 0));
     }
 
     private static void leastVoltage() {

@@ -194,6 +194,18 @@ public final class SlotTest {
         int slots = y.phase(0, 3);
         y.run(1);
         Check.same("18 slots", y.phase(0, 3), slots + 18);
+        // 275 thousandths, no more and no less.
+        Converters.set(y, 6, 0, 7, 0);
+        int rest = y.phase(0, 2);
+        slots = y.phase(0, 3);
+        y.run(1);
+        Check.same("duty", y.count(7), 275);
+        Check.same("slots on", y.phase(0, 3) - slots, (rest + 5500) / 1000);
+        Check.same("rest", y.phase(0, 2), (rest + 5500) % 1000);
+        // 33 * 909 / 1000 = 29: 79 thousandths.
+        PhaseConverter z = CycleTest.threeOf100(909);
+        z.run(1);
+        Check.same("rest of phase 1", z.phase(1, 2), 20 * 79 - 1000);
     }
 
     private static void balanceIsClamped() {
@@ -358,23 +370,34 @@ public final class SlotTest {
         x.run(1);
         Check.same("mean current", x.count(5), (12 * 18 * 19 / 2 + 96) / 20);
         Check.same("current", x.phase(0, 0), 0);
-        PhaseConverter y = Converters.highOutput(30000);
-        Converters.set(y, 3, 7, 4, 500);
+        // 207 and 414 in two slots, and then 3300 / 100 less in each: 381 to 18, and 0.
+        PhaseConverter y = Converters.held(1, 3300);
+        Converters.set(y, 1, 12000, 3, 100, 4, 500, 6, 0, 7, 0, 8, 100);
         y.start();
-        y.run(40);
-        y.stop();
-        int voltage = y.count(1);
-        int current = y.phase(0, 0);
-        int sum = 0;
-        for (int slot = 0; slot < 20; slot++) {
-            current = Math.max(0, current - voltage / 7);
-            voltage = voltage + current / 500;
-            sum += current;
-        }
         y.run(1);
-        Check.same("voltage", y.count(1), voltage);
-        Check.same("current", y.phase(0, 0), current);
-        Check.same("mean current", y.count(5), sum / 20);
+        Check.same("slots on", y.phase(0, 3), 2 + 2);
+        Check.same("mean current", y.count(5), (207 + 414 + (381 + 18) * 12 / 2) / 20);
+        Check.same("the output stays", y.count(1), 3300);
+        // Off, all phases fall, each from its own current: 12000 and 12000 at 480 a slot and more.
+        PhaseConverter z = Converters.shorted(2, 1);
+        z.start();
+        z.run(2);
+        z.stop();
+        Converters.set(z, 2, 24000, 3, 100, 4, 500);
+        z.run(1);
+        Check.same("an output of 0 takes nothing", z.phase(0, 0) + z.phase(1, 0), 24000);
+        z.set(2, 0);
+        // 24000 / 500 = 48 at the end of slot 0; in slot 1 nothing is taken, as 48 / 100 is 0.
+        int voltage = 0;
+        int current = 12000;
+        for (int slot = 0; slot < 20; slot++) {
+            current -= voltage / 100;
+            voltage += 2 * current / 500;
+        }
+        z.run(1);
+        Check.same("current of phase 0", z.phase(0, 0), current);
+        Check.same("current of phase 1", z.phase(1, 0), current);
+        Check.same("voltage", z.count(1), voltage);
     }
 
     private static void currentBelow0() {
@@ -393,6 +416,12 @@ public final class SlotTest {
         Check.same("11980 - 12000", y.phase(0, 0), 0);
         Check.same("mean current", y.count(5), 11980 / 20);
         Check.same("nothing is taken from the output", y.count(1), 12000);
+        // 11980 - 11981: just below 0. If it stayed there, the sum would be 11979.
+        PhaseConverter w = Converters.held(1, 20);
+        Converters.set(w, 0, 12000, 2, 19, 8, 100);
+        w.start();
+        w.run(1);
+        Check.same("mean current", w.count(5), 599);
         // On, with an input below the output.
         PhaseConverter z = Converters.steady(1);
         z.set(0, 1000);

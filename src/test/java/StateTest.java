@@ -163,8 +163,10 @@ public final class StateTest {
         for (int i = 0; i < 50; i++) {
             y.run(1);
             for (int p = 0; p < 4; p++) {
-                Check.yes("a rest from 0 to 999", y.phase(p, 2) >= 0 && y.phase(p, 2) <= 999);
-                Check.yes("an on-time from 0 to 18", y.phase(p, 1) >= 0 && y.phase(p, 1) <= 18);
+                int rest = y.phase(p, 2);
+                int onTime = y.phase(p, 1);
+                Check.yes("a rest from 0 to 999", rest >= 0 && rest <= 999);
+                Check.yes("an on-time from 0 to 18", onTime >= 0 && onTime <= 18);
             }
         }
     }
@@ -238,6 +240,15 @@ public final class StateTest {
             x.begin(phases);
             isFresh("after begin(" + phases + ")", x, phases, "");
         }
+        // With currents, and pulses that are on.
+        PhaseConverter on = Converters.shorted(4, 100);
+        on.start();
+        on.run(1);
+        Check.yes("a current", on.phase(3, 0) > 0);
+        Check.yes("a pulse that is on", on.phase(3, 1) > 0);
+        Check.yes("a mean current", on.count(5) > 0);
+        on.begin(4);
+        isFresh("after begin with currents", on, 4, "");
         // Nor do the hidden things come back in the cycles that follow.
         PhaseConverter used = disturbed(3);
         used.begin(4);
