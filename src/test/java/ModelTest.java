@@ -4,6 +4,7 @@ import java.util.Random;
 public final class ModelTest {
     private static final int RUNS = 700;
     private static final int CALLS = 500;
+    private static final int METHODS = 19;
     private static final String CODES = "sx,itlcr0123456789";
     private static final String[] PROGRAMS = {"s,r20", "x,s,r3", "r200", "l0,r9,l9000,r9", "i3000,r1,i12000,s",
         "t1800,r4", "c600,r12,c8000", "s,s", "r0", "r201", "i999", "t12000,r30,t500,r2", "x", "s,x,r1,q", "r5,"};
@@ -64,7 +65,18 @@ public final class ModelTest {
         }
     }
 
+    /** A number that may be far out of every range, or within some. */
+    private int wild() {
+        int[] all = {Integer.MIN_VALUE, Integer.MIN_VALUE + 1, -1, 0, 1, 2, 33, 50, Integer.MAX_VALUE - 1,
+            Integer.MAX_VALUE, random.nextInt()};
+        return all[random.nextInt(all.length)];
+    }
+
     private void step() {
+        if (random.nextInt(25) == 0) {
+            call(random.nextInt(METHODS), wild(), wild(), wild());
+            return;
+        }
         int kind = random.nextInt(100);
         if (kind < 3) {
             call(0, between(0, 5), 0, 0);
